@@ -1211,10 +1211,10 @@ public final class CornerWinds {
         long leastSum() {
             long sum = 0;
             for (int mended = 0; mended < size; mended++) {
-                int least = Integer.MAX_VALUE;
+                int least = NONE;
                 for (int set = 0; set < sets(); set++) {
-                    if (Integer.bitCount(set) == mended) {
-                        least = Math.min(least, year[set]);
+                    if (Integer.bitCount(set) == mended && (least == NONE || year[set] < least)) {
+                        least = year[set];
                     }
                 }
                 sum += least;
