@@ -494,13 +494,16 @@ public final class CornerWinds {
         if (now.storms.size == 0) {
             return NONE;
         }
-        int least = 0;
+        int cheapest = 0;
+        int least = now.costAt(0);
         for (int limit = 1; limit <= HUNDRED; limit++) {
-            if (now.costAt(limit) <= now.costAt(least)) {
-                least = limit;
+            int cost = now.costAt(limit);
+            if (cost <= least) {
+                cheapest = limit;
+                least = cost;
             }
         }
-        return least;
+        return cheapest;
     }
 
     public int tower(int floors, int age, int braces, int leg, int bolted) {

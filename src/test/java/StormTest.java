@@ -110,11 +110,15 @@ public final class StormTest {
     x.terms(7, 10);
     Due.is("when: the low one must be called", x.when(), 20);
     x.terms(6, 1000);
-    Due.is("when: calling is dear", x.when(), 30 - 30 + 100);
+    Due.is("when: calling is dear", x.when(), 100);
     x = new CornerWinds();
     x.terms(6, 0);
     Due.row(x, 1, 0);
     Due.is("when: at 0 alone", x.when(), 0);
+    x = new CornerWinds();
+    Due.row(x, 1, 1);
+    Due.row(x, 0, 0);
+    Due.is("when: at 1 alone", x.when(), 1);
   }
 
   private static void tower() {

@@ -79,7 +79,7 @@ public final class TowerTest {
       Due.is("terms: first, to the most", x.terms(what, most[what]), first[what]);
       Due.is("terms: status", x.status(), 0);
     }
-    for (int what = 8; what >= 1; what--) Due.is("terms: to the least", x.terms(what, least[what]), most[what]);
+    for (int what = 8; what >= 0; what--) Due.is("terms: to the least", x.terms(what, least[what]), most[what]);
     Due.is("terms: what", x.terms(-1, 1), -1);
     Due.is("terms: what", x.terms(9, 1), -1);
     x = new CornerWinds();
@@ -141,6 +141,7 @@ public final class TowerTest {
   private static void tension() {
     CornerWinds x = new CornerWinds();
     x.wind(1, 10, 1);
+    tensionByWays();
     long[] top = {21_000, -14_000, 21_000, -14_000, 14_000, -21_000, 14_000, -21_000};
     for (int i = 0; i < 8; i++) Due.is("tension: across an edge, highest tier", x.tension(0, 40 + i, 1), top[i]);
     // Tier 4: twice the area, its upright three times as much.
@@ -158,6 +159,19 @@ public final class TowerTest {
     int[][] wrong = {{-1, 0, 1}, {1, 0, 1}, {0, -1, 1}, {0, 48, 1}, {0, 0, -1}, {0, 0, 2}};
     for (int[] w : wrong) Due.is("tension: nothing", x.tension(w[0], w[1], w[2]), NOTHING);
     twisted();
+  }
+
+  /** 100 on the lowest tier alone: what the left braces of the north and the east face bear by each way. */
+  private static void tensionByWays() {
+    CornerWinds x = new CornerWinds();
+    Due.areaOn(x, 0, 1);
+    x.terms(2, 0);
+    long[] east = {10, 7, 0, -7, -10, -7, 0, 7}, north = {0, 7, 10, 7, 0, -7, -10, -7};
+    for (int way = 0; way < 8; way++) {
+      x.wind(way, 100, 1);
+      Due.is("tension: way " + way, x.tension(way, 0, 1), 2500 * east[way]);
+      Due.is("tension: way " + way, x.tension(way, 2, 1), 2500 * north[way]);
+    }
   }
 
   /** By hand: a north face of 14, all others of 10; 8 on it east. */
