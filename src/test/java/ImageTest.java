@@ -5,6 +5,7 @@ public final class ImageTest {
     allThatIsKept();
     whatIsNotKept();
     two();
+    texts();
     status();
     Due.close("ImageTest");
   }
@@ -126,6 +127,21 @@ public final class ImageTest {
     x.stiff(0, 4);
     x.back(0);
     Due.is("image: kept anew", x.joint(0, 3), 2);
+  }
+
+  /** A text that took a number anew does not take an image's. */
+  private static void texts() {
+    CornerWinds x = new CornerWinds();
+    x.wind(0, 1, 1);
+    x.image(0);
+    Due.is("rule", Due.rule(x, "need 1"), 0);
+    x.image(1);
+    x.back(0);
+    Due.is("need: no text", x.need(0, 0, 0), -1);
+    Due.is("rule", Due.rule(x, "need 2"), 0);
+    Due.is("need: the new one", x.need(0, 0, 0), 2);
+    x.back(1);
+    Due.is("need: the image's", x.need(0, 0, 0), 1);
   }
 
   private static void status() {

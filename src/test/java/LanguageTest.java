@@ -29,6 +29,7 @@ public final class LanguageTest {
     String source = Files.readString(Path.of(System.getProperty("project", "."), "src/main/java/CornerWinds.java"));
     words(source);
     lengths(source);
+    neverThrows();
     room();
     Due.close("LanguageTest");
   }
@@ -112,6 +113,29 @@ public final class LanguageTest {
       i = last;
     }
     no("methods were not found", methods < 90);
+  }
+
+  /** Any numbers in any order, far beyond the 512 calls of an object; an exception would end the test. */
+  private static void neverThrows() throws Exception {
+    Method[] methods = CornerWinds.class.getMethods();
+    Arrays.sort(methods, java.util.Comparator.comparing(Method::getName));
+    java.util.Random chance = new java.util.Random(41);
+    for (int object = 0; object < 20; object++) {
+      CornerWinds x = new CornerWinds();
+      int[] edges = {-1, 0, 1, 2, 3, 7, 8, 15, 40, 47, 48, 100, 9999, 100_000, Integer.MIN_VALUE, Integer.MAX_VALUE};
+      for (int i = 0; i < 4000; i++) {
+        Method m = methods[chance.nextInt(methods.length)];
+        if (m.getDeclaringClass() != CornerWinds.class) continue;
+        Object[] args = new Object[m.getParameterCount()];
+        for (int a = 0; a < args.length; a++) args[a] = object % 4 == 0 ? chance.nextInt() : edges[chance.nextInt(object % 2 == 0 ? edges.length : 6)];
+        m.invoke(x, args);
+        if (chance.nextInt(30) == 0) {
+          x.end(0);
+          Due.rule(x, chance.nextBoolean() ? "need load; edge if tier<day; look age/leg" : "need 1/side if not face");
+        }
+      }
+      Due.is("never throws", 0, 0);
+    }
   }
 
   private static long bytesMade() {

@@ -5,6 +5,7 @@ public final class MendingTest {
     greatestOdds();
     wish();
     best();
+    oneBolt();
     bestAndLow();
     alike();
     nine();
@@ -115,6 +116,26 @@ public final class MendingTest {
     Due.is("night: of one", x.night(0), 0);
     Due.is("night: no more than that", x.night(1), -1);
     Due.is("low: of one", x.low(), 11_000);
+  }
+
+  /** One bolt beside a weld that can't bear alone what both do. */
+  private static void oneBolt() {
+    CornerWinds x = Due.tower();
+    x.terms(1, 1);
+    x.terms(2, 100);
+    x.wind(0, 8, 10);
+    Due.bolt(x, 2, 47);
+    x.wish(2);
+    Due.is("best: a bolt beside a weld", x.best(), 1000);
+    x.wish(47);
+    Due.is("best: what does not matter is mended last", x.best(), 1000);
+    Due.is("best: the bolt first", x.night(0), 0);
+    x.clear();
+    x.wish(47);
+    x.wish(2);
+    Due.is("best: wished the other way round", x.best(), 1000);
+    Due.is("best: the bolt first", x.night(0), 1);
+    Due.is("low: the same", x.low(), 1000);
   }
 
   private static void bestAndLow() {

@@ -8,6 +8,7 @@ public final class RuleTest {
     limits();
     sums();
     tests();
+    longTexts();
     words();
     winds();
     need();
@@ -84,6 +85,14 @@ public final class RuleTest {
     isFault("need", 4);
     isFault("need  ", 6);
     isFault("needs 5", 0);
+    isFault("needneed 5", 0);
+    isFault("needz 5", 0);
+    isFault("aneed 5", 0);
+    isFault("xeed 5", 0);
+    isFault("nee 5", 0);
+    isFault("need{5", 4);
+    isFault("need`5", 4);
+    isFault("need :", 5);
     isFault("Need 5", 0);
     isFault(" 5", 1);
     isFault("if face", 0);
@@ -192,6 +201,34 @@ public final class RuleTest {
     needs("need 1 if not bolted and face", 1);
     needs("need 1 if not bolted or 1/0=1 or 2/0=1", 1);
     needs("need 1 if bolted or mended or face and welded", 1);
+    needs("need 1 if 1<2 or 1/0=1", 1);
+    needs("need 1 if 2>1 or 1/0=1", 1);
+    needs("need 1 if 2=2 or 1/0=1", 1);
+    needs("need 1 if welded or 1/0=1", 1);
+    needs("need 5;need 1 if 2<1 and 1/0=1", 5);
+    needs("need 1 if not(2<1 and 1/0=1)", 1);
+  }
+
+  /** All clauses and all orders count, up to the limits. */
+  private static void longTexts() {
+    needs("edge;".repeat(11) + "need 7", 7);
+    needs("need 7;" + "edge;".repeat(10) + "look 3", 7);
+    needs("need 1" + "+1".repeat(49), 50);
+    String nots = "not(".repeat(8), closed = ")".repeat(8);
+    String group = nots + "face" + closed;
+    needs("need 1" + "+1".repeat(44) + " if " + (group + "and ").repeat(4) + group, 45);
+    needs("need 1" + "+1".repeat(44) + " if " + (group + "and ").repeat(4) + nots + "bolted" + closed, 0);
+    needs("need 9 if " + "not ".repeat(96) + "face", 9);
+    needs("need 9 if " + "not ".repeat(95) + "face", 0);
+    CornerWinds x = new CornerWinds();
+    x.wind(0, 1, 1);
+    Due.say(x, "need 57+load");
+    Due.is("end", x.end(6), 6);
+    Due.is("rule: what is cut off is not read", x.rule(), 0);
+    Due.is("need: what is cut off is not read", x.need(0, 0, 0), 5);
+    Due.say(x, "need leggy");
+    Due.is("end", x.end(8), 8);
+    Due.is("rule: nor are letters", x.rule(), 1);
   }
 
   private static void words() {
@@ -218,14 +255,16 @@ public final class RuleTest {
     Due.is("need: bolted", x.need(1, 28, 0), 2);
     x.plate(28, 1);
     Due.is("need: mended", x.need(1, 28, 0), 3);
+    Due.is("rule", Due.rule(x, "need 4 if mended or 1/0=1"), 2);
+    Due.is("need: mended, nothing behind it is asked", x.need(2, 28, 0), 4);
     x.plate(28, 0);
     Due.is("need: not mended", x.need(1, 28, 0), 2);
-    Due.is("rule", Due.rule(x, "need holds"), 2);
+    Due.is("rule", Due.rule(x, "need holds"), 3);
     x.plate(28, 1);
-    Due.is("need: what it holds", x.need(2, 28, 0), 325);
+    Due.is("need: what it holds", x.need(3, 28, 0), 325);
     x.terms(4, 50);
-    Due.is("rule", Due.rule(x, "need load"), 3);
-    Due.is("need: with current", x.need(3, 28, 0), 11);
+    Due.is("rule", Due.rule(x, "need load"), 4);
+    Due.is("need: with current", x.need(4, 28, 0), 11);
   }
 
   private static void winds() {

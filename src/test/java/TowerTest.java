@@ -243,6 +243,13 @@ public final class TowerTest {
     Due.are("goes: tier by tier", Due.gone(x, 0, 1), 0, 8, 16);
     Due.is("goes: how many", x.goes(0, 1, -1), 3);
     Due.is("goes: behind the last", x.goes(0, 1, 3), -1);
+    x = Due.tower();
+    Due.areaOn(x, 4, 1);
+    x.terms(1, 1);
+    x.terms(2, 0);
+    x.wind(0, 40, 1);
+    Due.bolt(x, 32, 8, 24, 4);
+    Due.are("goes: of alike ones the lowest tier's", Due.gone(x, 0, 1), 4, 8, 24, 32);
   }
 
   private static void falls() {
