@@ -935,7 +935,7 @@ public final class CornerWinds {
             return state.stiff[joint] * (shifted + upright[face]);
         }
 
-        private static int faceOf(int joint) {
+        static int faceOf(int joint) {
             return joint / 2 % FACES;
         }
 
