@@ -237,11 +237,10 @@ public final class CornerWinds {
     }
 
     public int rule() {
+        int length = takeTape();
         if (now.textCount >= TEXTS_MOST) {
             return refuse(NO_ROOM);
         }
-        int length = tapeLength;
-        tapeLength = 0;
         Text text = reader.read(tape, length);
         if (text == null) {
             fault = reader.start;
@@ -466,11 +465,10 @@ public final class CornerWinds {
     }
 
     public int row() {
+        int hours = takeTape() - 1;
         if (now.storms.isFull()) {
             return refuse(NO_ROOM);
         }
-        int hours = tapeLength - 1;
-        tapeLength = 0;
         if (!isWithin(hours, 1, HOURS_MOST) || tape[0] > 1) {
             return refuse(UNREADABLE);
         }
@@ -633,6 +631,13 @@ public final class CornerWinds {
             tape[tapeLength] = (number >>> shift) & 255;
             tapeLength++;
         }
+    }
+
+    /** How many bytes the tape has; it is empty behind this, whatever becomes of them: their values stay to be read. */
+    private int takeTape() {
+        int length = tapeLength;
+        tapeLength = 0;
+        return length;
     }
 
     private int needBy(Text rules, int joint, int day) {

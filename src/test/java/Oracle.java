@@ -241,10 +241,10 @@ final class Oracle {
   }
 
   int rule() {
-    if (s.texts.size() == 8) return refuse(-5);
     StringBuilder b = new StringBuilder();
     for (int v : tape) b.append((char) v);
     tape = new int[0];
+    if (s.texts.size() == 8) return refuse(-5);
     Rules r = new Rules(b.toString());
     fault = r.fault;
     if (r.fault != NONE) return refuse(-6);
@@ -460,9 +460,9 @@ final class Oracle {
   }
 
   int row() {
-    if (s.storms.size() == 20) return refuse(-5);
     int[] bytes = tape;
     tape = new int[0];
+    if (s.storms.size() == 20) return refuse(-5);
     if (bytes.length < 2 || bytes.length > 41 || bytes[0] > 1) return refuse(-6);
     s.storms.add(bytes);
     return answer(s.storms.size());

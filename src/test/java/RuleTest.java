@@ -66,6 +66,26 @@ public final class RuleTest {
     Due.is("rule: a ninth", Due.rule(x, "need"), -5);
     Due.is("rule: status", x.status(), -5);
     Due.is("rule: not read", x.fault(), -1);
+    Due.is("rule: the tape is empty without room, too", x.count(7), 0);
+    Due.is("rule: a tenth, of a tape that is empty", x.rule(), -5);
+    Due.say(x, "need 5");
+    Due.is("rule: a text that can be", x.rule(), -5);
+    Due.is("rule: the tape is empty behind that, too", x.feed(0, 0, 0, 0, 0), 20);
+    faultStaysWithoutRoom();
+  }
+
+  private static void faultStaysWithoutRoom() {
+    CornerWinds x = new CornerWinds();
+    for (int i = 0; i < 7; i++) Due.rule(x, "need 5");
+    x.image(0);
+    Due.rule(x, "need 5");
+    x.image(1);
+    x.back(0);
+    Due.is("rule: one that can't be", Due.rule(x, "need 5 if if"), -6);
+    x.back(1);
+    Due.is("rule: no room", Due.rule(x, "need"), -5);
+    Due.is("rule: the fault of the latest that was read", x.fault(), 10);
+    Due.is("rule: the tape is empty", x.count(7), 0);
   }
 
   private static void isFault(String text, int place) {

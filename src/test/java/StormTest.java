@@ -44,8 +44,13 @@ public final class StormTest {
     x.terms(7, 1000);
     Due.is("call: all of them", x.call(50), 20_000);
     Due.is("call: none of them", x.call(51), 20_000);
-    x.end(0);
     Due.is("row: no room comes first", Due.row(x, 9), -5);
+    Due.is("row: the tape is empty without room, too", x.count(7), 0);
+    Due.is("row: of a tape that is empty", x.row(), -5);
+    Due.put(x, hours(1, 40, 50));
+    Due.is("row: one that can be", x.row(), -5);
+    Due.is("row: the tape is empty behind that, too", x.feed(0, 0, 0, 0, 0), 20);
+    Due.is("row: as many as there were", x.count(5), 20);
   }
 
   private static void call() {
