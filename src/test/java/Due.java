@@ -1,14 +1,18 @@
 /** What a handwritten test is made of: calls with the answers that are due, and a count of those that are not. */
 final class Due {
   private static int asked = 0, wrong = 0;
+  private static String sentence = "";
 
   private Due() { }
+
+  /** The document's words that the answers from here on are about; SentencesTest looks them up there. */
+  static void says(String words) { sentence = " [" + words + "]"; }
 
   static void is(String what, long got, long want) {
     asked++;
     if (got != want) {
       wrong++;
-      System.out.println(what + " answered " + got + ", due is " + want);
+      System.out.println(what + " answered " + got + ", due is " + want + sentence);
     }
   }
 
