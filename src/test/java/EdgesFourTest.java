@@ -30,6 +30,9 @@ public final class EdgesFourTest {
     images();
     notKept();
     kept();
+    rowsComeBack();
+    streetsComeBack();
+    textsComeBack();
     backNumbers();
     counts();
     statusOfEach();
@@ -221,12 +224,13 @@ public final class EdgesFourTest {
     for (int way = 0; way < 8; way++) {
       for (int beside = 0; beside < 8; beside++) {
         CornerWinds x = falling(2, way);
+        x.street(beside, 1, 2);
         x.street(beside, 6, 1);
         x.street(beside, 7, 10);
         x.street(beside, 12, 100);
         x.street(beside, 13, 1000);
         int apart = Math.min(Math.floorMod(way - beside, 8), Math.floorMod(beside - way, 8));
-        Due.is("way " + way + ", street " + beside, x.under(0, 1), apart == 0 ? 111 : apart == 1 ? 1 : 0);
+        Due.is("way " + way + ", street " + beside, x.under(0, 1), apart == 0 ? 113 : apart == 1 ? 3 : 0);
       }
     }
   }
@@ -240,6 +244,10 @@ public final class EdgesFourTest {
     int[][] wrong = {{-1, 1}, {1, 1}, {LEAST, 1}, {MOST, 1}, {0, -1}, {0, 2}, {0, LEAST}, {0, MOST}};
     for (int[] w : wrong) Due.is("under by " + w[0] + ", " + w[1], x.under(w[0], w[1]), -1);
     x.tier(0, 1, 100_000);
+    Due.is("it does not fall", x.under(0, 1), 0);
+    x.tier(0, 1, 0);
+    Due.is("it does again", x.under(0, 1), 7);
+    x.terms(1, 1000);
     Due.is("it does not fall", x.under(0, 1), 0);
     Due.is("no wind", new CornerWinds().under(0, 1), -1);
   }
@@ -434,6 +442,12 @@ public final class EdgesFourTest {
     Due.row(x, 0, 0);
     Due.is("at 1", x.when(), 1);
     x = new CornerWinds();
+    x.terms(7, 2);
+    Due.row(x, 0, 40);
+    Due.row(x, 1, 60);
+    // 2 up to 40, 1 up to 60, 2 beyond.
+    Due.is("the least, not what is as much as at 0", x.when(), 60);
+    x = new CornerWinds();
     Due.row(x, 0, 99);
     Due.is("at 100 alone it is not called", x.when(), 100);
     Due.says("WHEN; NONE without STORMS.");
@@ -608,6 +622,79 @@ public final class EdgesFourTest {
     x.back(0);
     for (int what = 8; what >= 0; what--) Due.is("terms " + what, x.terms(what, first[what]), first[what]);
     Due.is("area and dead", x.tier(5, 0, 1) + x.tier(5, 1, 1), 10);
+  }
+
+  /** What stands in rows is written over between an image and going back to it. */
+  private static void rowsComeBack() {
+    Due.says("BACK to one all is as it was then");
+    CornerWinds x = Due.tower();
+    Due.areaOn(x, 0, 1);
+    x.terms(2, 0);
+    x.image(0);
+    rows(x, 1);
+    x.image(1);
+    for (int round = 0; round < 2; round++) {
+      x.back(0);
+      rows(x, 2);
+      Due.is("other rows", x.drawing(1, 1), 2);
+      x.back(1);
+      for (int i = 0; i < 2; i++) {
+        int[] step = {i + 1, 1, 1, 1, 1, 1};
+        for (int what = 0; what < 6; what++) Due.is("step " + i + ", " + what, x.drawing(i, what), step[what]);
+        Due.is("wind " + i, x.tension(i, 0, 1), 10_000);
+        Due.is("text " + i, x.need(1 + i, 0, 0), 1 + i);
+      }
+      Due.is("towers", x.first(3), 1);
+      Due.is("storms at 10", x.call(10), 2);
+      Due.is("storms at 11", x.call(11), 1);
+      Due.is("storms at 12", x.call(12), 0);
+      Due.is("a bolt", x.joint(1, 0), 1);
+      Due.is("no other bolt", x.joint(2, 0), 0);
+    }
+  }
+
+  private static void streetsComeBack() {
+    Due.says("BACK to one all is as it was then");
+    CornerWinds x = falling(0, 0);
+    x.image(0);
+    x.street(0, 1, 5);
+    x.street(0, 2, 6);
+    x.image(1);
+    x.back(0);
+    Due.is("none", x.under(0, 1), 0);
+    x.street(0, 3, 70);
+    x.street(0, 4, 80);
+    Due.is("other ones", x.under(0, 1), 150);
+    x.back(1);
+    Due.is("as they were", x.under(0, 1), 11);
+  }
+
+  private static void textsComeBack() {
+    Due.says("BACK to one all is as it was then");
+    CornerWinds x = new CornerWinds();
+    x.wind(0, 1, 1);
+    x.image(0);
+    for (int i = 0; i < 8; i++) Due.rule(x, "need " + (1 + i));
+    x.image(1);
+    x.back(0);
+    for (int i = 0; i < 8; i++) Due.rule(x, "need 77");
+    x.back(1);
+    for (int i = 0; i < 8; i++) Due.is("text " + i, x.need(i, 0, 0), 1 + i);
+    x.back(0);
+    for (int i = 0; i < 8; i++) Due.is("no text " + i, x.need(i, 0, 0), -1);
+  }
+
+  private static void rows(CornerWinds x, int n) {
+    for (int i = 0; i < 2; i++) {
+      x.wind(0, 40 * n, n);
+      Due.rule(x, "need " + (n == 1 ? 1 + i : 77));
+    }
+    Due.rule(x, "look age");
+    for (int i = 0; i < 2; i++) {
+      x.step(n + i, n, 1, n, n);
+      Due.row(x, 0, 10 * n + i);
+      x.tower(n, n == 1 ? i : 9 - i, 0, 0, 0);
+    }
   }
 
   private static void backNumbers() {

@@ -4,15 +4,20 @@ public final class EdgesThreeTest {
 
   public static void main(String[] args) {
     oddsOfAYear();
+    leastSwim();
     greatestOdds();
     worth();
     spare();
+    belowNought();
     oddsWithout();
     nineWishes();
     wishNumbers();
     clear();
     riskOfARow();
+    oneNight();
+    worseMended();
     greatestRisk();
+    lastWindAlone();
     bestOfAlikeOnes();
     wholePlate();
     bestWithout();
@@ -56,6 +61,35 @@ public final class EdgesThreeTest {
     Due.is("one by which it does not fall", x.odds(0), 700 + 100_000);
     x = new CornerWinds();
     Due.is("no wind", x.odds(0), 0);
+    x.terms(4, 50);
+    x.terms(5, 100);
+    x.wind(0, 1, 1000);
+    for (int what = 0; what < 3; what++) Due.is("a first one by which it never falls, " + what, x.odds(what), 0);
+  }
+
+  /** While it swims by a hundredth 99.495 on a joint that holds 100, 100.5 without current. */
+  private static void leastSwim() {
+    Due.says("with CURRENT times 100 less FAILS, without times FAILS");
+    CornerWinds x = Due.tower();
+    Due.areaOn(x, 3, 3);
+    x.terms(1, 100);
+    x.terms(2, 100);
+    x.wind(2, 67, 7);
+    Due.bolt(x, 24, 25);
+    x.terms(5, 40);
+    x.terms(4, 1);
+    Due.is("swim 1: it falls without current", x.odds(0), 280);
+    x.wish(24);
+    Due.is("best", x.best(), 280);
+    Due.is("low", x.low(), 280);
+    x.terms(4, 0);
+    Due.is("swim 0: it falls always", x.odds(0), 700);
+    Due.is("best", x.best(), 700);
+    x.terms(4, 1);
+    Due.is("best asked again", x.best(), 280);
+    x.terms(1, 101);
+    Due.is("best where it does not fall", x.best(), 0);
+    Due.is("odds where it does not fall", x.odds(0), 0);
   }
 
   private static void greatestOdds() {
@@ -98,6 +132,33 @@ public final class EdgesThreeTest {
     }
     x.terms(5, 50);
     Due.is("asking changes nothing", x.odds(0), 500);
+  }
+
+  /** Half of the wind takes joint 6 behind 5 and 7, all of it joint 1: then it stands. So it falls with current alone. */
+  private static void belowNought() {
+    CornerWinds x = Due.tower();
+    Due.areaOn(x, 0, 20);
+    x.terms(1, 1);
+    x.terms(0, 130);
+    x.terms(2, 39);
+    x.terms(4, 45);
+    x.wind(5, 100, 4);
+    Due.bolt(x, 6);
+    x.plate(6, 1);
+    Due.are("with current", Due.gone(x, 0, 1), 5, 7, 6);
+    Due.are("without current", Due.gone(x, 0, 0), 5, 7, 1);
+    Due.is("it falls with current", x.falls(0, 1), 0);
+    Due.is("it stands without", x.falls(0, 0), -1);
+    int[][] due = {{0, 400, -400, 0}, {1, 396, -396, -4}, {50, 200, -200, -100}, {100, 0, 0, 0}};
+    for (int[] d : due) {
+      x.terms(5, d[0]);
+      Due.says("ODDS of a year: the sum of ODDS of the WINDS by which it FALLS, with CURRENT times 100 less FAILS");
+      Due.is("fails " + d[0], x.odds(0), d[1]);
+      Due.says("how much more they would be without CURRENT always");
+      Due.is("less is below 0, fails " + d[0], x.odds(1), d[2]);
+      Due.says("FAILS becomes FAILS times itself through 100, cut: how much less they are");
+      Due.is("more is below 0, fails " + d[0], x.odds(2), d[3]);
+    }
   }
 
   private static void oddsWithout() {
@@ -185,6 +246,92 @@ public final class EdgesThreeTest {
     Due.is("a fourth night, of nothing more", x.best(), 11_000 + 11_000 + 1000);
     x.terms(5, 37);
     Due.is("alike with and without current", x.best(), 23_000);
+    x = swimming(7);
+    x.terms(5, 50);
+    x.wish(24);
+    Due.is("without current alone", x.best(), 350);
+    x.wish(25);
+    Due.is("one of both is enough", x.best(), 350);
+    x.terms(5, 100);
+    Due.is("asked anew", x.best(), 700);
+    x.tier(3, 1, 100);
+    Due.is("held down by now", x.best(), 0);
+    Due.is("held down by now", x.low(), 0);
+    eachTier();
+  }
+
+  /** A bolt beside a weld: the weld can't bear alone what both do. It is the one joint that goes by itself. */
+  private static void eachTier() {
+    for (int tier = 0; tier < 6; tier++) {
+      for (int side = 0; side < 8; side += 7) {
+        CornerWinds x = Due.tower();
+        Due.areaOn(x, tier, 20);
+        for (int t = 0; t < tier; t++) x.tier(t, 1, 100_000);
+        x.terms(1, 1);
+        x.terms(2, 100);
+        // North of a tier by way 2, west by way 4: 1600 on its face, 800 on a brace.
+        x.wind(side == 0 ? 2 : 4, 80, 10);
+        Due.bolt(x, 8 * tier + side);
+        x.wish(8 * tier + side);
+        Due.is("tier " + tier + ", joint " + side, x.best(), 1000);
+        Due.is("tier " + tier + ", joint " + side + ", low", x.low(), 1000);
+        Due.bolt(x, 8 * tier + 2);
+        x.wish(8 * tier + 2);
+        Due.is("tier " + tier + ", joint " + side + " and another one", x.best(), 1000);
+        Due.is("it is mended first", x.night(0), 0);
+        Due.is("then the other one", x.night(1), 1);
+      }
+    }
+  }
+
+  /** One night has the risk of a year as it is now, whichever joint is bolted and however it blows. */
+  private static void oneNight() {
+    Due.says("as it is in each NIGHT, ahead of its mending (as many as are WISHED)");
+    int fell = 0;
+    for (int joint = 0; joint < 48; joint++) {
+      for (int way = 0; way < 8; way++) {
+        CornerWinds x = Due.tower();
+        int tier = joint / 8;
+        Due.areaOn(x, tier, 20);
+        for (int t = 0; t < tier; t++) x.tier(t, 1, 100_000);
+        x.terms(0, 1180);
+        x.terms(1, 295);
+        x.terms(2, 99);
+        x.wind(way, 100, 1);
+        Due.bolt(x, joint);
+        x.wish(joint);
+        int due = x.falls(0, 1) == -1 ? 0 : 100;
+        fell += due / 100;
+        Due.is("joint " + joint + ", way " + way, x.best(), due);
+        Due.is("joint " + joint + ", way " + way + ", low", x.low(), due);
+        Due.is("joint " + joint + ", way " + way + ", odds", x.odds(0), due);
+      }
+    }
+    Due.is("some fall and some do not", fell > 48 && fell < 300 ? 1 : 0, 1);
+  }
+
+  /** Mended, the weld of joint 5 makes it fall by the wind to the west: it is better mended last. */
+  private static void worseMended() {
+    Due.says("RISK of a row: the sum of ODDS of a year as it is in each NIGHT, ahead of its mending");
+    CornerWinds x = Due.tower();
+    Due.areaOn(x, 0, 20);
+    x.terms(1, 1);
+    x.terms(0, 420);
+    x.terms(2, 38);
+    x.stiff(5, 3);
+    x.wind(4, 100, 1);
+    Due.bolt(x, 5, 45);
+    x.wish(5);
+    Due.is("ahead of its mending it stands", x.best(), 0);
+    Due.is("low", x.low(), 0);
+    x.wish(45);
+    Due.is("best", x.best(), 0);
+    Due.is("the other one first", x.night(0), 1);
+    Due.is("that one last", x.night(1), 0);
+    x.plate(5, 4);
+    Due.is("behind its mending it falls", x.odds(0), 100);
+    Due.is("best of what is mended", x.best(), 200);
+    Due.is("alike: the first", x.night(0), 0);
   }
 
   private static void greatestRisk() {
@@ -199,6 +346,34 @@ public final class EdgesThreeTest {
     Due.is("nine nights of the greatest odds", x.best(), 14_400_000_000L);
     Due.is("low", x.low(), 14_400_000_000L);
     for (int night = 0; night < 9; night++) Due.is("all rows are alike", x.night(night), night);
+    x.terms(4, 1);
+    x.terms(5, 50);
+    Due.is("with and without current", x.best(), 14_400_000_000L);
+    Due.is("low with and without current", x.low(), 14_400_000_000L);
+  }
+
+  private static void lastWindAlone() {
+    Due.says("the sum of ODDS of the WINDS by which it FALLS");
+    for (int many = 0; many < 16; many++) {
+      CornerWinds x = Due.tower();
+      Due.areaOn(x, 3, 1);
+      x.terms(1, 3);
+      x.terms(2, 100);
+      x.terms(4, 50);
+      x.terms(5, 10);
+      for (int i = 0; i < many; i++) x.wind(2, 1, 1);
+      x.wind(2, 8, 1000);
+      for (int i = many + 1; i < 16; i++) x.wind(2, 1, 1);
+      Due.bolt(x, 24, 25);
+      x.wish(25);
+      Due.is("wind " + many + " alone, without current", x.best(), 10_000);
+      Due.is("odds", x.odds(0), 10_000);
+      x.terms(4, 0);
+      Due.is("wind " + many + " alone", x.best(), 100_000);
+      Due.is("odds", x.odds(0), 100_000);
+      x.terms(1, 4);
+      Due.is("none", x.best(), 0);
+    }
   }
 
   private static void bestOfAlikeOnes() {
@@ -406,6 +581,11 @@ public final class EdgesThreeTest {
     Due.is("from one ahead of it", x.move(), 10);
     x.terms(3, 10);
     Due.is("from there", x.move(), 10);
+    x = nearly(1);
+    x.wind(2, 100, 1);
+    x.terms(3, 9);
+    for (int joint = 0; joint < 48; joint++) Due.is("the first joint alone wants it, " + joint, x.enough(joint), joint == 0 ? 0 : 1);
+    Due.is("it is moved for that one", x.move(), 10);
     x = nearly(0);
     Due.is("where it is", x.move(), 0);
     x.terms(3, 5);

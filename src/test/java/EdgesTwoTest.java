@@ -37,6 +37,7 @@ public final class EdgesTwoTest {
     doneAllTheSame();
     seen();
     seenAtTheEdges();
+    seenOnceMore();
     feed();
     end();
     ruleAndTape();
@@ -130,10 +131,23 @@ public final class EdgesTwoTest {
       fault("edge if a" + plain, 8);
       fault("edge if " + plain.substring(0, plain.length() - 1), 8);
     }
+    for (String word : new String[] {"need", "look", "edge"}) changed("", word, word.equals("edge") ? "" : " 5");
+    for (String part : PARTS) changed("need ", part, "");
+    for (String plain : PLAINS) changed("edge if ", plain, "");
+    changed("edge ", "if", " face");
+    changed("edge if ", "not", " face");
+    changed("edge if face ", "or", " face");
+    changed("edge if face ", "and", " face");
     for (String head : new String[] {"nee", "needs", "loo", "looks", "edg", "edges", "NEED", "Need"}) fault(head + " 5", 0);
     for (String join : new String[] {"o", "ors", "an", "ands", "nd", "r"}) fault("edge if face " + join + " face", 13);
     for (String no : new String[] {"no", "nots", "ot"}) fault("edge if " + no + " face", 8);
     for (String iff : new String[] {"i", "f", "ifs", "iff"}) fault("edge " + iff + " face", 5);
+  }
+
+  /** A word with any one letter another one is none. */
+  private static void changed(String ahead, String word, String behind) {
+    good(ahead + word + behind);
+    for (int i = 0; i < word.length(); i++) fault(ahead + word.substring(0, i) + 'q' + word.substring(i + 1) + behind, ahead.length());
   }
 
   private static void twelveClauses() {
@@ -286,11 +300,21 @@ public final class EdgesTwoTest {
     fault("need " + "1+".repeat(24) + "1;look " + "1+".repeat(24) + "1;need 1", 115);
     needs("need " + ones + "1", 50);
     CornerWinds x = new CornerWinds();
-    for (int i = 0; i < 2; i++) Due.is("each text by itself", Due.rule(x, "need " + ones + "1"), i);
+    x.wind(0, 1, 1);
+    for (int i = 0; i < 8; i++) {
+      Due.is("one leaf more", Due.rule(x, "need " + more + "1"), -6);
+      Due.is("each text by itself", Due.rule(x, "need " + ones + i), i);
+    }
+    for (int i = 0; i < 8; i++) Due.is("each text by itself", x.need(i, 0, 0), 49 + i);
   }
 
   private static void notLeaves() {
     Due.says("words that are PARTS or PLAINS by themselves");
+    String nots = "not(".repeat(8), closed = ")".repeat(8);
+    needs("need 1" + "+1".repeat(44) + " if " + (nots + "face" + closed + "and ").repeat(4) + nots + "face" + closed, 45);
+    needs("need 1" + "+1".repeat(44) + " if " + (nots + "face" + closed + "and ").repeat(4) + nots + "bolted" + closed, 0);
+    needs("need 9 if " + "not ".repeat(96) + "face", 9);
+    needs("need 9 if " + "not ".repeat(95) + "face", 0);
     good("need " + "1+".repeat(47) + "1 if not not (face) and not (bolted)");
     good("need " + "1+".repeat(44) + "1 if not face;edge if not face;look [1];edge if [[1]]=1");
     good("need " + "1+".repeat(46) + "1;look 1;edge if 1=1;edge;edge;edge");
@@ -396,6 +420,12 @@ public final class EdgesTwoTest {
     CornerWinds x = Due.tower();
     x.wind(0, 1, 1);
     x.tower(200, 100, 400, 10, 1);
+    Due.rule(x, "look floors+age+braces");
+    Due.is("another tower is asked ahead of that", x.first(1), 0);
+    for (String word : new String[] {"floors", "age", "braces"}) {
+      Due.is(word + " behind that", told(x, "need 5+" + word, 0, 0), 5);
+      Due.is(word + " behind that", told(x, "need 5-" + word, 0, 0), 5);
+    }
     x.tier(5, 1, 100_000);
     x.tier(0, 1, 7);
     x.terms(0, 100_000);
@@ -541,6 +571,24 @@ public final class EdgesTwoTest {
     needs("need 5 if bolted or face or " + broken, 5);
     needs("need 5 if face and face or " + broken, 5);
     needs("need 5 if face and bolted or " + broken, 0);
+    for (String so : new String[] {"face", "welded", "1<2", "2>1", "1=1", "not bolted", "not 2<1", "(face)", "not(face and bolted)"}) {
+      needs("need 5 if " + so + " or " + broken, 5);
+      needs("need 3;need 5 if " + so + " and " + broken, 3);
+      needs("need 3;need 5 if not " + (so.startsWith("not ") ? "(" + so + ")" : so), 3);
+    }
+    for (String not : new String[] {"bolted", "mended", "2<1", "1>2", "1=2", "not face", "not 1<2"}) {
+      needs("need 3;need 5 if " + not + " and " + broken + " or face", 5);
+      needs("need 3;need 5 if " + not + " or " + broken, 3);
+    }
+    CornerWinds x = Due.tower();
+    x.wind(0, 1, 1);
+    Due.bolt(x, 0);
+    x.plate(0, 1);
+    Due.rule(x, "need 5 if mended or " + broken);
+    Due.rule(x, "need 5 if bolted or " + broken);
+    Due.rule(x, "need 5 if not mended or not bolted");
+    int[] due = {5, 5, 0};
+    for (int i = 0; i < 3; i++) Due.is("of one that is mended, " + i, x.need(1 + i, 0, 0), due[i]);
     needs("need 5 if (face or " + broken + ") and face", 5);
     needs("need 5 if (face or " + broken + ") and " + broken, 0);
   }
@@ -763,6 +811,45 @@ public final class EdgesTwoTest {
     x.terms(1, 1);
     Due.bolt(x, 2, 3);
     Due.is("it did ahead of it", x.saw(), -1);
+  }
+
+  /** All welded it falls by its wind; with joint 5 bolted that one goes first, and it stands. */
+  private static CornerWinds betterBolted() {
+    CornerWinds x = Due.tower();
+    Due.areaOn(x, 0, 20);
+    x.terms(1, 1);
+    x.terms(0, 420);
+    x.terms(2, 38);
+    x.stiff(5, 3);
+    x.wind(4, 100, 1);
+    return x;
+  }
+
+  private static void seenOnceMore() {
+    Due.says("by which it did not ahead of it");
+    CornerWinds x = betterBolted();
+    Due.is("all welded it falls", x.falls(0, 1), 0);
+    Due.bolt(x, 5);
+    Due.is("bolted it does not", x.falls(0, 1), -1);
+    Due.is("so nothing is seen", x.saw(), -1);
+    x.step(0, 5, 0, 0, 0);
+    Due.is("welded again it falls, and did not ahead of that", x.saw(), 1);
+    x.wind(0, 1, 1);
+    Due.is("by another wind it never falls", x.saw(), 1);
+    x = betterBolted();
+    x.step(0, 5, 0, 0, 0);
+    Due.is("welded, as it was: it fell ahead of it", x.saw(), -1);
+    Due.says("all else as it is");
+    x = eastOfTwo();
+    Due.bolt(x, 18, 19);
+    x.tier(2, 1, 1000);
+    Due.is("held down by now", x.saw(), -1);
+    x.tier(2, 1, 0);
+    Due.is("not any more", x.saw(), 1);
+    x.terms(3, 10);
+    Due.is("the leg at the corner", x.saw(), -1);
+    x.terms(3, 0);
+    Due.is("the leg in the middle", x.saw(), 1);
   }
 
   private static void feed() {

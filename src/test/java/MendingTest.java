@@ -232,6 +232,15 @@ public final class MendingTest {
     Due.is("enough: a twist across makes it more", x.enough(2), 0);
   }
 
+  /** All winds on a face and one across an edge, the leg where it is told. */
+  private static CornerWinds blown(int leg) {
+    CornerWinds x = new CornerWinds();
+    x.terms(3, leg);
+    x.wind(3, 9, 1);
+    for (int way = 0; way < 8; way += 2) x.wind(way, 9, 1);
+    return x;
+  }
+
   private static void move() {
     CornerWinds x = new CornerWinds();
     Due.is("move: no wind", x.move(), 0);
@@ -239,12 +248,10 @@ public final class MendingTest {
     Due.is("move: not below what it is", x.move(), 7);
     x.wind(3, 9, 1);
     Due.is("move: none", x.move(), -1);
-    x.terms(3, 0);
-    for (int way = 0; way < 8; way += 2) x.wind(way, 9, 1);
-    int least = x.move();
+    int least = blown(0).move();
     Due.is("move: there is one", least > 0 && least < 10 ? 1 : 0, 1);
     for (int leg = 0; leg <= 10; leg++) {
-      x.terms(3, leg);
+      x = blown(leg);
       boolean all = true;
       for (int joint = 0; joint < 48; joint++) all &= x.enough(joint) == 1;
       Due.is("move: enough for all", all ? 1 : 0, leg >= least ? 1 : 0);
