@@ -29,6 +29,7 @@ public final class EdgesThreeTest {
     enoughWithout();
     move();
     moveWithout();
+    moveAsksAlone();
     Due.close("EdgesThreeTest");
   }
 
@@ -620,5 +621,23 @@ public final class EdgesThreeTest {
     Due.is("from no leg", x.move(), -1);
     for (int way = 0; way < 8; way += 2) x.wind(way, 1, 1);
     Due.is("now there is one", x.move() >= 0 ? 1 : 0, 1);
+  }
+
+  private static void moveAsksAlone() {
+    Due.says("MOVE: the least LEG not below what it is for which it is ENOUGH for all JOINTS.");
+    CornerWinds x = new CornerWinds();
+    x.wind(0, 10, 1);
+    x.wind(1, 10, 1);
+    x.wind(2, 10, 1);
+    long pull = x.tension(1, 2, 1);
+    Due.is("it would have to move", x.move(), 4);
+    Due.is("but it is not moved: a brace bears what it did", x.tension(1, 2, 1), pull);
+    Due.is("nor is it enough now", x.enough(0), 0);
+    Due.is("asked again", x.move(), 4);
+    Due.is("the leg is where it was", x.terms(3, 0), 0);
+    x.wind(5, 100, 1);
+    x.terms(3, 2);
+    Due.is("none will do", x.move(), -1);
+    Due.is("the leg is where it was", x.terms(3, 0), 2);
   }
 }

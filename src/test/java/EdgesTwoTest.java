@@ -9,6 +9,7 @@ public final class EdgesTwoTest {
     longestText();
     bytesBetween();
     bytesBehindNumbers();
+    bytesAhead();
     wordsAreWhole();
     twelveClauses();
     clauseForms();
@@ -38,12 +39,15 @@ public final class EdgesTwoTest {
     seen();
     seenAtTheEdges();
     seenOnceMore();
+    seenWhileAnotherEnds();
+    notSeenBehindTheLast();
     feed();
     end();
     ruleAndTape();
     fault();
     needWithout();
     drawing();
+    drawnAsItWas();
     Due.close("EdgesTwoTest");
   }
 
@@ -114,6 +118,21 @@ public final class EdgesTwoTest {
     fault("need 5i f face", 6);
     fault("need 1 00 000", 7);
     needs("need 12;need 13", 13);
+  }
+
+  /** No byte by itself is a word, the last one (255) neither. */
+  private static void bytesAhead() {
+    Due.says("single other bytes, any blanks (32) between");
+    for (int b = 0; b < 256; b++) {
+      String one = String.valueOf((char) b);
+      boolean blank = b == ' ', digit = b >= '0' && b <= '9';
+      fault(one, blank ? 1 : 0);
+      fault(one + " 5", blank ? 2 : 0);
+      fault("need 5 " + one, blank ? -1 : "+-*/;".indexOf(b) >= 0 ? 8 : 7);
+      fault("need " + one, digit ? -1 : blank || b == '[' ? 6 : 5);
+      fault("edge if " + one, blank || digit || b == '(' || b == '[' ? 9 : 8);
+      fault("edge if face " + one, blank ? -1 : b == ';' ? 14 : 13);
+    }
   }
 
   private static void wordsAreWhole() {
@@ -852,6 +871,41 @@ public final class EdgesTwoTest {
     Due.is("the leg in the middle", x.saw(), 1);
   }
 
+  private static void seenWhileAnotherEnds() {
+    Due.says("the first STEP behind which it FALLS by a WIND told now, with CURRENT, by which it did not ahead of it");
+    CornerWinds x = betterBolted();
+    x.wind(6, 80, 1);
+    Due.is("all welded it falls by the one", x.falls(0, 1), 0);
+    Due.is("and stands by the other", x.falls(1, 1), -1);
+    Due.bolt(x, 5);
+    Due.is("bolted it stands by the one", x.falls(0, 1), -1);
+    Due.is("and falls by the other", x.falls(1, 1), 0);
+    Due.is("so that one is seen, though another one's fall has ended", x.saw(), 0);
+    x = betterBolted();
+    Due.bolt(x, 5);
+    x.step(0, 5, 0, 0, 0);
+    x.wind(6, 80, 1);
+    Due.is("the first of two, each by a wind of its own", x.saw(), 0);
+  }
+
+  private static void notSeenBehindTheLast() {
+    Due.says("SEEN; NONE.");
+    // As betterBolted(), from the other side: joint 0 in the place of joint 5.
+    CornerWinds x = Due.tower();
+    Due.areaOn(x, 0, 20);
+    x.terms(1, 1);
+    x.terms(0, 420);
+    x.terms(2, 38);
+    x.stiff(0, 3);
+    x.wind(0, 100, 1);
+    Due.is("all welded it falls", x.falls(0, 1), 0);
+    Due.bolt(x, 0);
+    Due.is("bolted it does not", x.falls(0, 1), -1);
+    Due.is("behind the last step nothing is asked", x.saw(), -1);
+    for (int i = 0; i < 59; i++) Due.bolt(x, 47);
+    Due.is("behind the sixtieth neither", x.saw(), -1);
+  }
+
   private static void feed() {
     Due.says("Twenty bytes come behind the TAPE, four of each number, the highest first: how many it has. NONE, if there would be more than 400.");
     CornerWinds x = new CornerWinds();
@@ -989,5 +1043,19 @@ public final class EdgesTwoTest {
     }
     int[][] wrong = {{-1, 0}, {2, 0}, {LEAST, 0}, {MOST, 0}, {0, -1}, {0, 6}, {1, 6}, {1, -1}, {0, LEAST}, {0, MOST}};
     for (int[] w : wrong) Due.is("drawing of " + w[0] + ", " + w[1], x.drawing(w[0], w[1]), -1);
+  }
+
+  private static void drawnAsItWas() {
+    Due.says("Of the i-th STEP 0 DAY, 1 JOINT, 2 its kind, 3 PERSON, 4 TEXT, 5 1 if LET, else 0.");
+    CornerWinds x = new CornerWinds();
+    x.wind(0, 1, 1);
+    Due.rule(x, "need 500");
+    Due.is("bolted, not let", x.step(1, 3, 1, 2, 0), 0);
+    Due.is("welded, let", x.step(2, 3, 0, 4, 0), 1);
+    Due.is("bolted once more", x.step(2, 3, 1, 5, 0), 0);
+    x.plate(3, 4);
+    x.terms(1, 1000);
+    long[][] due = {{1, 3, 1, 2, 0, 0}, {2, 3, 0, 4, 0, 1}, {2, 3, 1, 5, 0, 0}};
+    for (int i = 0; i < 3; i++) for (int what = 0; what < 6; what++) Due.is("step " + i + ", " + what, x.drawing(i, what), due[i][what]);
   }
 }
