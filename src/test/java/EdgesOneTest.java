@@ -28,6 +28,7 @@ public final class EdgesOneTest {
     shiftsAndTwists();
     shares();
     oneBareFace();
+    threeSingleBraces();
     uprightOnABareFace();
     goesIfAbove();
     theGreatestCut();
@@ -576,6 +577,38 @@ public final class EdgesOneTest {
       Due.are("what goes", Due.gone(x, 0, 1), gone[face]);
       Due.is("on three faces it stands", x.falls(0, 1), -1);
     }
+  }
+
+  /** The least that is just one x, y, w: one face bare, on each other one a single brace of stiff 1 left. */
+  private static void threeSingleBraces() {
+    Due.says("If there is not just one such x, y, w, it STANDS not.");
+    // As it is told for the west bare. The first two to go are alike, one of each face that the wind does not blow on.
+    int[] stiffs = {7, 1, 2, 1, 2, 1, 1, 2}, plates = {3, 4, 0, 2, 2, 4, 0, 0};
+    int[] ways = {2, 0, 2, 0};
+    long[][] gone = {{1, 4, 6, 0, 2}, {3, 6, 4, 2, 0}, {0, 5, 2, 4, 6}, {2, 7, 0, 6, 4}};
+    for (int bare = 0; bare < 4; bare++) {
+      CornerWinds x = Due.tower();
+      x.terms(0, 1031);
+      x.terms(1, 16);
+      x.terms(2, 0);
+      Due.areaOn(x, 0, 20);
+      x.wind(ways[bare], 83, 1);
+      for (int i = 0; i < 8; i++) {
+        int joint = turned(i, bare);
+        x.stiff(joint, stiffs[i]);
+        Due.bolt(x, joint);
+        x.plate(joint, plates[i]);
+      }
+      Due.are("what goes", Due.gone(x, 0, 1), gone[bare]);
+      Due.is("on three single braces it stands", x.falls(0, 1), -1);
+    }
+  }
+
+  /** The joint that does, if that face is bare, what a joint does if the west is. */
+  private static int turned(int joint, int bare) {
+    int face = joint / 2, side = joint % 2;
+    int[][] faces = {{3, 2, 1, 0}, {2, 3, 0, 1}, {1, 0, 3, 2}, {0, 1, 2, 3}};
+    return 2 * faces[bare][face] + side;
   }
 
   private static void uprightOnABareFace() {
